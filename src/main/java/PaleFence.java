@@ -405,7 +405,10 @@ public final class PaleFence {
         return isLost(now.rules, work, n) ? 0 : 2;
     }
 
-    /** Whether who paints now can see to it that the other one is stuck, so many more pales being painted at most. */
+    /**
+     * Whether who paints now can see to it that the other one is stuck, so many more pales being
+     * painted at most. The row is lawful.
+     */
     private static boolean canWin(Rules rules, Row row, int more) {
         if (more <= 0) {
             return false;
@@ -418,7 +421,10 @@ public final class PaleFence {
         return wins;
     }
 
-    /** Whether who paints now is stuck, whatever is painted, so many more pales being painted at most. */
+    /**
+     * Whether the other one can see to it that who paints now is stuck, so many more pales being
+     * painted at most. The row is lawful.
+     */
     private static boolean isLost(Rules rules, Row row, int more) {
         if (more < 0) {
             return false;
@@ -483,7 +489,10 @@ public final class PaleFence {
         return painted;
     }
 
-    /** The colour of a set that as many of it lie ahead of as is the lot, as a remainder by how many there are. */
+    /**
+     * The colour of a set that as many of it lie ahead of as is the lot, as a remainder by how
+     * many there are.
+     */
     private static int drawn(int set, int lot) {
         int many = Integer.bitCount(set);
         int ahead = many == 0 ? 0 : lot % many;
@@ -663,7 +672,10 @@ public final class PaleFence {
         return n;
     }
 
-    /** What stands against taking items of a sheet, as a row of a lane, from one on: BAD, NULL, CAST, INDEX; 0: nothing. */
+    /**
+     * What stands against taking so many items of a sheet, as a row of a lane, from one on: BAD,
+     * NULL, CAST, INDEX; 0: nothing does.
+     */
     private static int refusalOf(Sheet page, int lane, int from, int n) {
         if (page == null || !isLane(lane)) {
             return BAD;
@@ -730,7 +742,10 @@ public final class PaleFence {
             System.arraycopy(other.pales, 0, pales, 0, size);
         }
 
-        /** Whether a stretch of so many pales comes so many times, one behind the other, and the last one ends ahead of `to`. */
+        /**
+         * Whether a stretch of so many pales comes so many times, one behind the other, the last
+         * time just ahead of the pale at `to`. There are so many pales ahead of it.
+         */
         private boolean repeats(int stretch, int times, int to) {
             int second = to - (times - 1) * stretch;
             for (int i = to - 1; i >= second; i--) {

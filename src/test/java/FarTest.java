@@ -237,7 +237,8 @@ public final class FarTest {
         Check.stands(x, "rwb" + "b".repeat(12));
         Check.due("13 would help", Check.fenced("rwb" + "b".repeat(13)).less(1), -4);
         Check.due("more than 48 together", Check.fenced(Check.squareFree(48)).less(12), 0);
-        Check.due("48, the last not lawful", Check.fenced(Check.squareFree(47) + Check.squareFree(47).charAt(46)).less(3), 1);
+        String row = Check.squareFree(47);
+        Check.due("48, the last not lawful", Check.fenced(row + row.charAt(46)).less(3), 1);
     }
 
     private static void manyAre(int colours, int law, int least, int... due) {
@@ -330,7 +331,8 @@ public final class FarTest {
     private static void cheap() {
         Check.part("promise 20");
         PaleFence x = new PaleFence();
-        int[][] bad = {{0, -1}, {0, 0}, {-1, -1}, {9, -1}, {9, 0}, {MAX, 0}, {MIN, 0}, {5, -2}, {5, 5}, {5, MAX}, {5, MIN}};
+        int[][] bad = {{0, -1}, {0, 0}, {-1, -1}, {9, -1}, {9, 0}, {MAX, 0}, {MIN, 0}, {5, -2}, {5, 5}, {5, MAX},
+            {5, MIN}};
         for (int[] b : bad) {
             Check.due("cheap(" + b[0] + ", " + b[1] + ")", x.cheap(b[0], b[1]), -1);
         }
@@ -370,7 +372,14 @@ public final class FarTest {
         cheapIs(x, 2, 98, "bg");
         x.price(0, 98);
         cheapIs(x, 2, 98, "rb");
+        // The least price may be the first colour's.
+        x = new PaleFence();
+        x.price(0, 0);
+        x.price(1, 10);
+        x.price(2, 9);
+        cheapIs(x, 3, 9, "rbr");
         // A colour that there is not has no price that counts.
+        x = Check.fenced(4, 0, 2, "");
         x.colours(3);
         x.price(0, 7);
         x.price(1, 7);
@@ -407,6 +416,9 @@ public final class FarTest {
         winsAre(Check.fenced(3, 2, 2, "rwb"), 2, 2, 2, 2, 0, 0, 0, 0, 0);
         winsAre(Check.fenced(3, 0, 2, "rwr"), 2, 2, 2, 2, 0, 0, 0, 0, 0);
         winsAre(Check.fenced(3, 0, 2, "rwrb"), 2, 2, 2, 1, 1, 1, 1, 1, 1);
+        x = Check.fenced("rwrbrw");
+        x.many(9);
+        Check.due("wins(1) behind another call", x.wins(1), 1);
         Check.due("wins(8) after rwb", Check.fenced("rwb").wins(8), 2);
         Check.due("wins(7) of no pale", new PaleFence().wins(7), 1);
         winsAre(Check.fenced(STUCK_AT_48), 0, 0, 0, 0, 0, 0, 0, 0, 0);

@@ -64,6 +64,8 @@ public final class FencesTest {
         Check.reads(x, "rb");
         Check.due("colours(2) with a b", x.colours(2), -2);
         Check.due("colours(3) with a b", x.colours(3), 4);
+        Check.reads(x, "brw");
+        Check.due("colours(2), b ahead", x.colours(2), -2);
         Check.reads(x, "wr");
         Check.due("colours(2) with r, w", x.colours(2), 3);
         Check.due("colours(3) with r, w", x.colours(3), 2);
@@ -96,7 +98,8 @@ public final class FencesTest {
     private static void rule() {
         Check.part("promise 4");
         PaleFence x = new PaleFence();
-        int[][] bad = {{-1, 1}, {2, 1}, {MIN, 1}, {MAX, 1}, {0, -1}, {0, 4}, {0, MAX}, {1, 0}, {1, 10}, {1, -1}, {1, MIN}};
+        int[][] bad = {{-1, 1}, {2, 1}, {MIN, 1}, {MAX, 1}, {0, -1}, {0, 4}, {0, MAX}, {1, 0}, {1, 10},
+            {1, -1}, {1, MIN}};
         for (int[] b : bad) {
             Check.due("rule(" + b[0] + ", " + b[1] + ")", x.rule(b[0], b[1]), -1);
         }

@@ -113,6 +113,11 @@ public final class TornTest {
         x = Check.fenced(4, 3, 9, "");
         Check.due("lots(5) of four colours", x.lots(5), 5);
         Check.stands(x, "bbwgg");
+        x = Check.fenced(4, 0, 2, "");
+        x.seed(2026);
+        Check.due("lots(20) of four colours", x.lots(20), 20);
+        Check.stands(x, "rwbgbwgwbrwgrbrwgwrg");
+        Check.due("seed(0)", x.seed(0), 617921382);
         x = Check.fenced(2, 0, 2, "");
         Check.due("lots(48) till it is stuck", x.lots(48), 3);
         Check.stands(x, "rwr");
