@@ -21,7 +21,7 @@ public final class PaleFence {
     private static final int MOST_TURNS = 8;
     private static final int MOST_LOST = 4;
 
-    // A whole fence with what a search paints behind it (16 at most), and some to spare.
+    // What a search has painted together is 64 pales at most (far 16 behind 48); some to spare.
     private static final int ROOM = 72;
 
     private static final int MOST_TAPE = 100;
@@ -496,11 +496,15 @@ public final class PaleFence {
     private static int drawn(int set, int lot) {
         int many = Integer.bitCount(set);
         int ahead = many == 0 ? 0 : lot % many;
-        int left = set;
-        for (int k = 0; k < ahead; k++) {
-            left &= left - 1;
+        for (int c = 0; c < MOST_COLOURS; c++) {
+            if ((set >> c & 1) != 0) {
+                if (ahead == 0) {
+                    return c;
+                }
+                ahead--;
+            }
         }
-        return Integer.numberOfTrailingZeros(left);
+        return 0;
     }
 
     public int seed(int v) {

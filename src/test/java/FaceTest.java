@@ -113,8 +113,7 @@ public final class FaceTest {
         Check.holds("no method reference", !code.contains("::"));
         Check.holds("no endless loop", !code.contains("while (true)") && !code.contains("for (;;)"));
         Matcher library = Pattern.compile("\\b([A-Z][a-z]\\w*)\\.(\\w+)").matcher(code);
-        Set<String> known = Set.of("Math.min", "Math.max", "Integer.bitCount", "Integer.numberOfTrailingZeros", "Integer.MAX_VALUE",
-            "System.arraycopy");
+        Set<String> known = Set.of("Math.min", "Math.max", "Integer.bitCount", "Integer.MAX_VALUE", "System.arraycopy");
         while (library.find()) {
             Check.holds("library: " + library.group(), known.contains(library.group()));
         }
