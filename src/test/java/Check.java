@@ -1,5 +1,11 @@
+import java.util.function.IntUnaryOperator;
+
 /** What all tests of the project use: counts calls whose answer is not the one that is due. */
 final class Check {
+    // Lawful rows of 48 pales behind which none may come, or one that is the last.
+    static final String STUCK_AT_48 = "wbrwrbrwbrbwbrwrbrwbwrwbrbwbrwbwrwbrwrbwrwbrbwrw";
+    static final String STUCK_AT_49 = "wbrbwbrwrbwrwbwrbwbrbwrwbrbwbrwrbwbrbwrbrwrbwbrb";
+
     private static int right = 0;
     private static int wrong = 0;
     private static String part = "";
@@ -22,6 +28,18 @@ final class Check {
 
     static void holds(String what, boolean so) {
         due(what, so ? 1 : 0, 1);
+    }
+
+    /** Asks with each of these numbers: the same answer is due. */
+    static void each(String call, IntUnaryOperator asked, int want, int... numbers) {
+        for (int n : numbers) {
+            due(call + "(" + n + ")", asked.applyAsInt(n), want);
+        }
+    }
+
+    /** How many answers have been looked at. */
+    static int asked() {
+        return right + wrong;
     }
 
     /** Ends the test: exit code 1 if an answer was wrong, or if nothing was asked. */
@@ -88,6 +106,27 @@ final class Check {
             System.out.println(part + ": the fence is " + is + ", due is " + text);
         }
         due("the fence is as due", is.equals(text) ? 1 : 0, 1);
+    }
+
+    /** A new row of a lane, with these items. */
+    static void fill(PaleFence x, int sheet, int lane, int... items) {
+        due("sheet", x.sheet(sheet, lane, items.length), items.length);
+        for (int i = 0; i < items.length; i++) {
+            due("item", x.item(sheet, lane, i, items[i]), 1);
+        }
+    }
+
+    /** Whether a sheet has just these items, colours, told by a fence of four colours. */
+    static void sheetHas(PaleFence x, int sheet, int lane, String row) {
+        x.colours(4);
+        due("build", x.build(sheet, lane, 0, row.length()), row.length());
+        stands(x, row);
+        due("no item more", x.build(sheet, lane, 0, row.length() + 1), row.length() == 48 ? -1 : -13);
+    }
+
+    /** The colour of a letter of a row. */
+    static int colour(String row, int i) {
+        return "rwbg".indexOf(row.charAt(i));
     }
 
     /** A row of n pales in which no stretch comes twice running. */

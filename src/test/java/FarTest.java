@@ -2,10 +2,6 @@
 public final class FarTest {
     private static final int MIN = Integer.MIN_VALUE, MAX = Integer.MAX_VALUE;
 
-    // Lawful rows of 48 pales behind which none may come, or one that is the last.
-    private static final String STUCK_AT_48 = "wbrwrbrwbrbwbrwrbrwbwrwbrbwbrwbwrwbrwrbwrwbrbwrw";
-    private static final String STUCK_AT_49 = "wbrbwbrwrbwrwbwrbwbrbwrwbrbwbrwrbwbrbwrbrwrbwbrb";
-
     // How much is to be scraped off rrrwrrr for 5 to 10 more, the longest row having 18.
     private static final int[] LESS_OF_LONG = {3, 3, 3, 3, 5, 6};
 
@@ -104,7 +100,7 @@ public final class FarTest {
         int next = "rwb".indexOf(row.charAt(48));
         PaleFence x = Check.fenced(row.substring(0, 48));
         Check.due("the 49th colour", x.may() >> next & 1, 1);
-        mayIs(3, 0, 2, STUCK_AT_48, 0);
+        mayIs(3, 0, 2, Check.STUCK_AT_48, 0);
         mayIs(2, 3, 9, "r".repeat(17), 2);
         mayIs(2, 3, 9, "r".repeat(16), 3);
     }
@@ -133,7 +129,7 @@ public final class FarTest {
         kindsAre(2, 1, "rrwrr", 0, 0, 1, 0, 0);
         kindsAre(3, 2, "rwbwr", 0, 0, 0, 0, 1);
         kindsAre(4, 0, "rwrbrwrg", 0, 0, 0, 0, 0, 0, 0, 1);
-        x = Check.fenced(STUCK_AT_48);
+        x = Check.fenced(Check.STUCK_AT_48);
         Check.due("kind(47)", x.kind(47), 3);
         Check.due("kind(46)", x.kind(46), 0);
         Check.due("kind(48)", x.kind(48), -1);
@@ -166,8 +162,8 @@ public final class FarTest {
         x = Check.fenced(Check.squareFree(48));
         Check.due("more than 48 together", x.far(16), 16);
         Check.stands(x, Check.squareFree(48));
-        Check.due("stuck behind 48", Check.fenced(STUCK_AT_48).far(16), 0);
-        Check.due("stuck behind 49", Check.fenced(STUCK_AT_49).far(16), 1);
+        Check.due("stuck behind 48", Check.fenced(Check.STUCK_AT_48).far(16), 0);
+        Check.due("stuck behind 49", Check.fenced(Check.STUCK_AT_49).far(16), 1);
     }
 
     private static void goes(PaleFence x, int n, String row) {
@@ -421,8 +417,8 @@ public final class FarTest {
         Check.due("wins(1) behind another call", x.wins(1), 1);
         Check.due("wins(8) after rwb", Check.fenced("rwb").wins(8), 2);
         Check.due("wins(7) of no pale", new PaleFence().wins(7), 1);
-        winsAre(Check.fenced(STUCK_AT_48), 0, 0, 0, 0, 0, 0, 0, 0, 0);
-        winsAre(Check.fenced(STUCK_AT_49), 2, 1, 1, 1, 1, 1, 1, 1, 1);
+        winsAre(Check.fenced(Check.STUCK_AT_48), 0, 0, 0, 0, 0, 0, 0, 0, 0);
+        winsAre(Check.fenced(Check.STUCK_AT_49), 2, 1, 1, 1, 1, 1, 1, 1, 1);
         Check.due("four colours", Check.fenced(4, 3, 9, "").wins(8), 2);
     }
 }

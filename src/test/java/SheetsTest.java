@@ -17,21 +17,6 @@ public final class SheetsTest {
         Check.end();
     }
 
-    private static void fill(PaleFence x, int sheet, int lane, int... items) {
-        x.sheet(sheet, lane, items.length);
-        for (int i = 0; i < items.length; i++) {
-            Check.due("item", x.item(sheet, lane, i, items[i]), 1);
-        }
-    }
-
-    /** Whether the items of a sheet are these, told by a fence of four colours. */
-    private static void holds(PaleFence x, int sheet, int lane, String row) {
-        x.colours(4);
-        Check.due("build", x.build(sheet, lane, 0, row.length()), row.length());
-        Check.stands(x, row);
-        Check.due("no item more", x.build(sheet, lane, 0, row.length() + 1), row.length() == 48 ? -1 : -13);
-    }
-
     private static void stormIs(PaleFence x, int lane, int n, int ways, String first) {
         Check.due("ways", x.storm(0, lane, 0, n, -1), ways);
         for (int i = 0; i < n; i++) {
@@ -43,13 +28,13 @@ public final class SheetsTest {
     private static void storm() {
         Check.part("promise 29");
         PaleFence x = Check.fenced("rwrbrwr");
-        fill(x, 0, 1, 0, 3, 6);
+        Check.fill(x, 0, 1, 0, 3, 6);
         stormIs(x, 1, 3, 4, "rbr");
         stormIs(x, 1, 1, 2, "r");
         Check.due("from the last on", x.storm(0, 1, 2, 1, -1), 2);
         Check.stands(x, "rwrbrwr");
         x = Check.fenced("rrrr");
-        fill(x, 0, 0, 0, 1, 2, 3);
+        Check.fill(x, 0, 0, 0, 1, 2, 3);
         stormIs(x, 0, 4, 18, "rwrb");
         stormIs(x, 0, 3, 6, "rwb");
         stormIs(x, 0, 2, 0, "");
@@ -65,20 +50,20 @@ public final class SheetsTest {
         stormIs(x, 0, 4, 10, "rrwr");
         // Not lawful ahead of the lost ones, between them, behind them.
         x = Check.fenced("rrwbr");
-        fill(x, 0, 2, 2, 4);
+        Check.fill(x, 0, 2, 2, 4);
         stormIs(x, 2, 2, 0, "");
         x = Check.fenced("rwwbr");
-        fill(x, 0, 2, 0, 3);
+        Check.fill(x, 0, 2, 0, 3);
         stormIs(x, 2, 2, 0, "");
         x = Check.fenced("rwbbr");
-        fill(x, 0, 2, 0, 1);
+        Check.fill(x, 0, 2, 0, 1);
         stormIs(x, 2, 2, 0, "");
-        fill(x, 0, 2, 0, 3);
+        Check.fill(x, 0, 2, 0, 3);
         stormIs(x, 2, 2, 1, "rw");
         x = Check.fenced(Check.squareFree(48));
-        fill(x, 0, 2, 44, 45, 46, 47);
+        Check.fill(x, 0, 2, 44, 45, 46, 47);
         Check.holds("ways at the end of 48", x.storm(0, 2, 0, 4, -1) >= 1);
-        fill(x, 0, 2, 47);
+        Check.fill(x, 0, 2, 47);
         Check.holds("ways at the end of 48", x.storm(0, 2, 0, 1, -1) >= 1);
         Check.stands(x, Check.squareFree(48));
     }
@@ -86,7 +71,7 @@ public final class SheetsTest {
     private static void stormRefused() {
         Check.part("promise 29, refused");
         PaleFence x = Check.fenced("rwrbrwr");
-        fill(x, 1, 2, 0, 2, 4, 6, 7, -1, 3, 3, 2, MAX, 5, MIN);
+        Check.fill(x, 1, 2, 0, 2, 4, 6, 7, -1, 3, 3, 2, MAX, 5, MIN);
         int[][] bad = {{-1, 2, 0, 1, 0}, {4, 2, 0, 1, 0}, {1, -1, 0, 1, 0}, {1, 3, 0, 1, 0}, {1, 2, 0, 0, -1}, {1, 2, 0, 5, 0},
             {1, 2, 0, -1, -1}, {1, 2, 0, 2, 2}, {1, 2, 0, 2, -2}, {1, 2, 0, MAX, 0}, {1, 2, 0, MIN, 0}, {1, 2, 0, 1, MAX},
             {1, 2, 0, 1, MIN}, {2, 3, 0, 1, 0}, {0, 2, -1, 5, 0}, {MIN, 2, 0, 1, 0}, {1, MAX, 0, 1, 0}};
@@ -121,14 +106,14 @@ public final class SheetsTest {
     private static void build() {
         Check.part("promise 30");
         PaleFence x = Check.fenced("rwb");
-        fill(x, 0, 0, 2, 1, 0, 0, 1);
+        Check.fill(x, 0, 0, 2, 1, 0, 0, 1);
         Check.due("build of 5", x.build(0, 0, 0, 5), 5);
         Check.stands(x, "bwrrw");
         Check.due("build of 2", x.build(0, 0, 1, 2), 2);
         Check.stands(x, "wr");
         Check.due("build of none", x.build(0, 0, 5, 0), 0);
         Check.stands(x, "");
-        fill(x, 3, 2, new int[48]);
+        Check.fill(x, 3, 2, new int[48]);
         Check.due("build of 48", x.build(3, 2, 0, 48), 48);
         Check.stands(x, "r".repeat(48));
         Check.due("the law does not ask", x.fault(0), 2);
@@ -136,7 +121,7 @@ public final class SheetsTest {
         Check.due("build of a row of none", x.build(2, 1, 0, 0), 0);
         Check.stands(x, "");
         x.colours(4);
-        fill(x, 1, 1, 3);
+        Check.fill(x, 1, 1, 3);
         Check.due("build of g", x.build(1, 1, 0, 1), 1);
         Check.stands(x, "g");
     }
@@ -144,7 +129,7 @@ public final class SheetsTest {
     private static void buildRefused() {
         Check.part("promise 30, refused");
         PaleFence x = Check.fenced("rwb");
-        fill(x, 0, 1, 0, 1, 2, 3, -1, 0, MAX);
+        Check.fill(x, 0, 1, 0, 1, 2, 3, -1, 0, MAX);
         int[][] bad = {{-1, 1, 0, 1}, {4, 1, 0, 1}, {0, -1, 0, 1}, {0, 3, 0, 1}, {0, 1, 0, -1}, {0, 1, 0, 49}, {0, 1, 0, MAX},
             {0, 1, 0, MIN}, {1, 3, 0, 1}, {1, 1, -1, 49}};
         for (int[] b : bad) {
@@ -174,12 +159,12 @@ public final class SheetsTest {
         Check.part("promise 31");
         PaleFence x = Check.fenced("rwb");
         for (int lane = 0; lane < 3; lane++) {
-            fill(x, lane, lane, 2, 2, 2, 2, 2);
+            Check.fill(x, lane, lane, 2, 2, 2, 2, 2);
             x.fence();
             Check.reads(x, "rwb");
             Check.due("film", x.film(lane, lane, 1), 3);
             Check.stands(x, "rwb");
-            holds(x, lane, lane, "brwbb");
+            Check.sheetHas(x, lane, lane, "brwbb");
         }
         Check.reads(x, "rwb");
         int[][] bad = {{-1, 0, 0}, {4, 0, 0}, {0, -1, 0}, {0, 3, 0}, {3, 3, 0}, {MAX, 0, 0}, {MIN, 0, 0}};
@@ -191,7 +176,7 @@ public final class SheetsTest {
         for (int from : new int[] {-1, 3, 5, 6, MAX, MIN}) {
             Check.due("INDEX " + from, x.film(0, 0, from), -13);
         }
-        holds(x, 0, 0, "brwbb");
+        Check.sheetHas(x, 0, 0, "brwbb");
         x.scrape(5);
         Check.due("film of none", x.film(0, 0, 5), 0);
         Check.due("film of none", x.film(0, 0, 0), 0);
@@ -203,7 +188,7 @@ public final class SheetsTest {
         Check.due("film of 48", x.film(3, 2, 0), 48);
         Check.due("film of 48 from 1", x.film(3, 2, 1), -13);
         x.scrape(48);
-        holds(x, 3, 2, row);
+        Check.sheetHas(x, 3, 2, row);
     }
 
     private static void sheet() {
@@ -218,20 +203,20 @@ public final class SheetsTest {
         Check.due("nothing is held", x.drop(0), -11);
         Check.due("sheet of 0", x.sheet(0, 0, 0), 0);
         Check.due("sheet of 48", x.sheet(3, 2, 48), 48);
-        holds(x, 3, 2, "r".repeat(48));
-        fill(x, 1, 1, 2, 1, 2);
+        Check.sheetHas(x, 3, 2, "r".repeat(48));
+        Check.fill(x, 1, 1, 2, 1, 2);
         Check.due("SIZE", x.sheet(1, 1, -1), -14);
         Check.due("BAD", x.sheet(1, 1, 49), -1);
-        holds(x, 1, 1, "bwb");
+        Check.sheetHas(x, 1, 1, "bwb");
         Check.due("a new row is of 0s", x.sheet(1, 1, 3), 3);
-        holds(x, 1, 1, "rrr");
+        Check.sheetHas(x, 1, 1, "rrr");
         Check.due("of another lane", x.sheet(1, 2, 2), 2);
         Check.due("CAST", x.item(1, 1, 0, 0), -12);
-        holds(x, 1, 2, "rr");
-        fill(x, 1, 2, 1, 1, 1, 1);
+        Check.sheetHas(x, 1, 2, "rr");
+        Check.fill(x, 1, 2, 1, 1, 1, 1);
         x.drop(1);
         x.sheet(1, 2, 4);
-        holds(x, 1, 2, "rrrr");
+        Check.sheetHas(x, 1, 2, "rrrr");
         Check.due("drop(0)", x.drop(0), 0);
     }
 
@@ -267,10 +252,10 @@ public final class SheetsTest {
         for (int i : new int[] {-1, 3, 48, MAX, MIN}) {
             Check.due("INDEX " + i, x.item(0, 1, i, 1), -13);
         }
-        holds(x, 0, 1, "rrr");
+        Check.sheetHas(x, 0, 1, "rrr");
         Check.due("item 0", x.item(0, 1, 0, 2), 1);
         Check.due("item 2", x.item(0, 1, 2, 1), 1);
-        holds(x, 0, 1, "brw");
+        Check.sheetHas(x, 0, 1, "brw");
         x.sheet(0, 1, 0);
         Check.due("item of none", x.item(0, 1, 0, 1), -13);
     }
@@ -306,34 +291,34 @@ public final class SheetsTest {
     private static void copy() {
         Check.part("promise 35");
         PaleFence x = new PaleFence();
-        fill(x, 0, 2, 0, 1, 2, 3, 2, 1);
-        fill(x, 1, 2, 0, 0, 0, 0);
+        Check.fill(x, 0, 2, 0, 1, 2, 3, 2, 1);
+        Check.fill(x, 1, 2, 0, 0, 0, 0);
         Check.due("copy", x.copy(0, 1, 1, 2, 2), 2);
-        holds(x, 1, 2, "rrwb");
-        holds(x, 0, 2, "rwbgbw");
+        Check.sheetHas(x, 1, 2, "rrwb");
+        Check.sheetHas(x, 0, 2, "rwbgbw");
         Check.due("upwards over itself", x.copy(0, 0, 0, 1, 5), 5);
-        holds(x, 0, 2, "rrwbgb");
+        Check.sheetHas(x, 0, 2, "rrwbgb");
         Check.due("downwards over itself", x.copy(0, 2, 0, 1, 4), 4);
-        holds(x, 0, 2, "rwbgbb");
+        Check.sheetHas(x, 0, 2, "rwbgbb");
         Check.due("onto itself", x.copy(0, 0, 0, 0, 6), 6);
-        holds(x, 0, 2, "rwbgbb");
+        Check.sheetHas(x, 0, 2, "rwbgbb");
         Check.due("none", x.copy(0, 6, 1, 4, 0), 0);
         Check.due("none", x.copy(0, 0, 1, 0, 0), 0);
-        holds(x, 1, 2, "rrwb");
-        fill(x, 2, 0, new int[48]);
-        fill(x, 3, 0, new int[48]);
+        Check.sheetHas(x, 1, 2, "rrwb");
+        Check.fill(x, 2, 0, new int[48]);
+        Check.fill(x, 3, 0, new int[48]);
         x.item(2, 0, 47, 3);
         x.item(2, 0, 0, 1);
         Check.due("48", x.copy(2, 0, 3, 0, 48), 48);
-        holds(x, 3, 0, "w" + "r".repeat(46) + "g");
+        Check.sheetHas(x, 3, 0, "w" + "r".repeat(46) + "g");
     }
 
     private static void copyRefused() {
         Check.part("promise 35, refused");
         PaleFence x = new PaleFence();
-        fill(x, 0, 1, 1, 2, 3);
-        fill(x, 1, 1, 0, 0);
-        fill(x, 2, 0, 0, 0, 0);
+        Check.fill(x, 0, 1, 1, 2, 3);
+        Check.fill(x, 1, 1, 0, 0);
+        Check.fill(x, 2, 0, 0, 0, 0);
         int[][] calls = {
             {-1, 0, 0, 0, 1, -1}, {4, 0, 0, 0, 1, -1}, {0, 0, -1, 0, 1, -1}, {0, 0, 4, 0, 1, -1}, {3, 0, 4, 0, 1, -1},
             {MAX, 0, 0, 0, 1, -1}, {0, 0, MIN, 0, 1, -1}, {3, 0, 0, 0, 1, -11}, {0, 0, 3, 0, 1, -11}, {3, 0, 3, 0, -1, -11},
@@ -346,8 +331,8 @@ public final class SheetsTest {
             String call = "copy(" + c[0] + ", " + c[1] + ", " + c[2] + ", " + c[3] + ", " + c[4] + ")";
             Check.due(call, x.copy(c[0], c[1], c[2], c[3], c[4]), c[5]);
         }
-        holds(x, 0, 1, "wbg");
-        holds(x, 1, 1, "rr");
-        holds(x, 2, 0, "rrr");
+        Check.sheetHas(x, 0, 1, "wbg");
+        Check.sheetHas(x, 1, 1, "rr");
+        Check.sheetHas(x, 2, 0, "rrr");
     }
 }
