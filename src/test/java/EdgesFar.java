@@ -395,6 +395,23 @@ final class EdgesFar {
         ringIs(Check.fenced(2, 3, 2, ""), 8, "");
     }
 
+    @Edge(promise = {17, 18, 19, 20}, part = "Terms", says = "MANY: how many LAWFUL rows of n PALES there are; "
+        + "RINGS: how many rows of n PALES there are that are RINGS; FIRST RING: the first of these rows. CHEAP: of LAWFUL rows of n PALES")
+    static void rowsAreNotByTheFence() {
+        for (String row : new String[] {"", "rr", Check.squareFree(48), Check.STUCK_AT_48, "r".repeat(48)}) {
+            PaleFence x = Check.fenced(row);
+            Check.due("many(9)", x.many(9), 108);
+            Check.reads(x, row);
+            Check.due("rings(8)", x.rings(8), 24);
+            Check.reads(x, row);
+            Check.due("ring(8, 7)", x.ring(8, 7), 2);
+            Check.reads(x, row);
+            Check.due("cheap(8, -1)", x.cheap(8, -1), 8);
+            Check.reads(x, row);
+            Check.due("cheap(8, 7)", x.cheap(8, 7), 0);
+        }
+    }
+
     // 20 cheap
 
     private static void cheapIs(PaleFence x, int n, int prices, String row) {

@@ -14,10 +14,12 @@ final class EdgesSheets {
     }
 
     private static void stormIs(PaleFence x, int n, int ways, String first) {
+        String row = Check.shown(x);
         Check.due("ways", x.storm(0, 2, 0, n, -1), ways);
         for (int i = 0; i < n; i++) {
             Check.due("the first way's " + i, x.storm(0, 2, 0, n, i), first.isEmpty() ? -4 : Check.colour(first, i));
         }
+        Check.stands(x, row);
     }
 
     @Edge(promise = 29, says = STORM)
@@ -99,6 +101,18 @@ final class EdgesSheets {
     static void stormOfTheLastOf48() {
         stormIs(stormed(Check.fenced(Check.squareFree(47) + "w"), 47), 1, 1, "b");
         Check.due("a 49th", stormed(Check.fenced(Check.squareFree(48)), 48).storm(0, 2, 0, 1, -1), -2);
+    }
+
+    @Edge(promise = 29, part = "Terms", says = "the first (by PALES).")
+    static void stormAskedAgain() {
+        PaleFence x = stormed(Check.fenced("rwrb"), 0, 3);
+        stormIs(x, 2, 3, "rb");
+        stormIs(x, 1, 2, "r");
+        x.replace(1, 2);
+        x.far(16);
+        stormIs(x, 2, 3, "rw");
+        x.replace(1, 0);
+        stormIs(x, 2, 0, "");
     }
 
     // 30 build

@@ -29,7 +29,8 @@ public final class EdgesTest {
         for (Method edge : edges) {
             run(edge);
         }
-        quotes(edges, sections(Files.readString(Path.of(args[1]), StandardCharsets.UTF_8)));
+        String document = args.length > 1 ? args[1] : "../shared/DOC.md";
+        quotes(edges, sections(Files.readString(Path.of(document), StandardCharsets.UTF_8)));
         System.out.println(edges.size() + " tests of boundary cases");
         Check.end();
     }

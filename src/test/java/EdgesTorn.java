@@ -199,6 +199,19 @@ final class EdgesTorn {
         drawn(Check.fenced("rwr"), MAX, "rwrb");
     }
 
+    @Edge(promise = 25, part = "Terms", says = "as is THE DRAW by 65536 (cut), as a remainder by how many there are;")
+    static void theDrawIsCut() {
+        // The draws become 65535, 65536, 131071, 131072, 2^31 - 1 and 0: by 65536 cut 0, 1, 1, 2, 32767 and 0.
+        int[] from = {2032319262, 1742513795, 1686616862, 1396811395, 230538014, 2088216195};
+        int[] draws = {65535, 65536, 131071, 131072, MAX, 0};
+        String rows = "rwwbwr";
+        for (int k = 0; k < from.length; k++) {
+            PaleFence x = new PaleFence();
+            drawn(x, from[k], rows.substring(k, k + 1));
+            Check.due("the draw", x.seed(0), draws[k]);
+        }
+    }
+
     private static void drawn(PaleFence x, int from, String row) {
         x.seed(from);
         x.lots(1);
