@@ -21,6 +21,8 @@ public final class PaleFence {
     private static final int MOST_TURNS = 8;
     private static final int MOST_LOST = 4;
 
+    private static final int LOWEST_31_BITS = 0x7fffffff;
+
     // What a search has painted together is 64 pales at most (far 16 behind 48); some to spare.
     private static final int ROOM = 72;
 
@@ -481,7 +483,7 @@ public final class PaleFence {
         int painted = 0;
         int open = openBehind(now.row.size);
         while (painted < n && open != 0) {
-            now.draw = now.draw * 1103515245 + 12345 & Integer.MAX_VALUE;
+            now.draw = now.draw * 1103515245 + 12345 & LOWEST_31_BITS;
             now.row.add(drawn(open, now.draw / 65536));
             painted++;
             open = openBehind(now.row.size);

@@ -14,20 +14,24 @@ import java.util.TreeSet;
 import java.util.regex.Matcher;
 import java.util.regex.Pattern;
 
-/** The face of the document, and what of LANGUAGE.md can be seen in the source. Argument: the source. */
+/**
+ * The face that the document's code block shows, and what of LANGUAGE.md can be seen in the source.
+ * Arguments: the source, the document.
+ */
 public final class FaceTest {
-    private static final String[] FACE = {
-        "colours(int)", "price(int, int)", "rule(int, int)", "paint(int)", "scrape(int)", "pale(int)", "type(long, int)", "fence()",
-        "count(int)", "fault(int)", "may()", "kind(int)", "far(int)", "go(int, int)", "less(int)", "many(int)", "rings(int)",
-        "ring(int, int)", "cheap(int, int)", "wins(int)", "tear(int)", "mends(int)", "replace(int, int)", "lots(int)", "seed(int)",
-        "image()", "restore()", "storm(int, int, int, int, int)", "build(int, int, int, int)", "film(int, int, int)",
-        "sheet(int, int, int)", "drop(int)", "item(int, int, int, int)", "copy(int, int, int, int, int)"};
+    private static final Pattern BLOCK = Pattern.compile("(?s)```java\\n(public final class PaleFence.*?)```");
+    private static final Pattern CALL = Pattern.compile("public int (\\w+)\\((.*)\\);");
+    private static final Pattern CONSTANT = Pattern.compile("\\b([A-Z]+) = (-?[0-9]+)");
 
     public static void main(String[] args) throws Exception {
-        face();
-        constants();
+        String document = Files.readString(Path.of(args.length > 1 ? args[1] : "../shared/DOC.md"), StandardCharsets.UTF_8);
+        Matcher block = BLOCK.matcher(document);
+        String face = block.find() ? block.group(1) : "";
+        face(face);
+        constants(face);
         inside();
-        source(Files.readString(Path.of(args[0]), StandardCharsets.US_ASCII));
+        String source = args.length > 0 ? args[0] : "src/main/java/PaleFence.java";
+        source(Files.readString(Path.of(source), StandardCharsets.US_ASCII));
         Check.end();
     }
 
@@ -35,8 +39,20 @@ public final class FaceTest {
         return Modifier.isPrivate(m.getModifiers()) || m.isSynthetic();
     }
 
-    private static void face() {
+    /** The calls of the document's code block, each with the types of its arguments. */
+    private static Set<String> callsOf(String face) {
+        Set<String> calls = new TreeSet<>();
+        Matcher call = CALL.matcher(face);
+        while (call.find()) {
+            calls.add(call.group(1) + "(" + call.group(2).replaceAll(" \\w+(,|$)", "$1") + ")");
+        }
+        return calls;
+    }
+
+    private static void face(String face) {
         Check.part("rule 1");
+        Set<String> told = callsOf(face);
+        Check.due("the document's calls", told.size(), 34);
         Check.due("public and final", PaleFence.class.getModifiers(), Modifier.PUBLIC | Modifier.FINAL);
         Set<String> open = new TreeSet<>();
         Set<String> names = new HashSet<>();
@@ -49,7 +65,7 @@ public final class FaceTest {
                 Check.holds(m.getName() + " answers an int", m.getReturnType() == int.class);
             }
         }
-        Check.holds("the methods: " + open, open.equals(new TreeSet<>(Arrays.asList(FACE))));
+        Check.holds("the methods: " + open, open.equals(told));
         for (Class<?> c : PaleFence.class.getNestMembers()) {
             for (Method m : c.getDeclaredMethods()) {
                 Check.holds("private " + m.getName() + " has a name of its own", !isPrivate(m) || !names.contains(m.getName()));
@@ -62,19 +78,22 @@ public final class FaceTest {
         Check.due("it is public", made[0].getModifiers(), Modifier.PUBLIC);
     }
 
-    private static void constants() throws Exception {
-        String[] names = {"BAD", "NOT", "FULL", "NONE", "NULL", "CAST", "INDEX", "SIZE"};
-        int[] values = {-1, -2, -3, -4, -11, -12, -13, -14};
-        for (int k = 0; k < names.length; k++) {
-            Field f = PaleFence.class.getField(names[k]);
-            Check.due(names[k], f.getInt(null), values[k]);
-            Check.due(names[k], f.getModifiers(), Modifier.PUBLIC | Modifier.STATIC | Modifier.FINAL);
+    private static void constants(String face) throws Exception {
+        int told = 0;
+        Matcher constant = CONSTANT.matcher(face);
+        while (constant.find()) {
+            told++;
+            Field f = PaleFence.class.getField(constant.group(1));
+            Check.due(f.getName(), f.getInt(null), Integer.parseInt(constant.group(2)));
+            Check.due(f.getName(), f.getModifiers(), Modifier.PUBLIC | Modifier.STATIC | Modifier.FINAL);
+            Check.holds(f.getName() + " is an int", f.getType() == int.class);
         }
         int open = 0;
         for (Field f : PaleFence.class.getDeclaredFields()) {
             open += isPrivate(f) ? 0 : 1;
         }
-        Check.due("open fields", open, names.length);
+        Check.due("the document's constants", told, 8);
+        Check.due("open fields", open, told);
     }
 
     private static void inside() {
@@ -113,7 +132,7 @@ public final class FaceTest {
         Check.holds("no method reference", !code.contains("::"));
         Check.holds("no endless loop", !code.contains("while (true)") && !code.contains("for (;;)"));
         Matcher library = Pattern.compile("\\b([A-Z][a-z]\\w*)\\.(\\w+)").matcher(code);
-        Set<String> known = Set.of("Math.min", "Math.max", "Integer.bitCount", "Integer.MAX_VALUE", "System.arraycopy");
+        Set<String> known = Set.of("Math.min", "Math.max", "Integer.bitCount", "System.arraycopy");
         while (library.find()) {
             Check.holds("library: " + library.group(), known.contains(library.group()));
         }
